@@ -104,6 +104,7 @@ public final class PromiseTests {
         due(2, "grains of -10", x.set(1, -10, 0), BAD);
         due(2, "grains kept", x.told(55, 1), 1);
         due(2, "number", x.set(2, 1, 0), 9);
+        due(2, "number 9", x.set(2, 1, 9), 0);
         due(2, "number 10", x.set(2, 1, 10), BAD);
         due(2, "number -1", x.set(2, 1, -1), BAD);
         due(2, "number of 2", x.set(2, 2, 0), BAD);
@@ -216,6 +217,10 @@ public final class PromiseTests {
         due(5, "takes, the upper bound", x.asks(0, 2, 0), 99);
         due(5, "keeps, the upper bound", x.asks(0, 2, 6), 10);
         due(5, "sure, the upper bound", x.asks(0, 2, 7), 99);
+        x.person(2, 0);
+        due(5, "half of the bound", x.asks(1, 2, 0), 49);
+        x.set(3, 2, 200);
+        due(5, "keeps all, and no more", x.asks(0, 2, 6), 200);
         x.force(read(x, "takes -1; keeps -1; sure -1;"));
         due(5, "takes, the lower bound", x.asks(0, 2, 0), 0);
         due(5, "keeps, the lower bound", x.asks(0, 2, 6), 0);
@@ -365,6 +370,7 @@ public final class PromiseTests {
         x.person(0, 0);
         due(9, "a day", x.stay(0, 0), 42);
         due(9, "another day", x.stay(0, 1), 42 + 99);
+        due(9, "the other's shoe", x.told(1, 6), 0);
         due(9, "out", x.told(0, 5), 2);
         due(9, "out of the other", x.told(1, 5), 0);
         due(9, "day", x.count(1), 2);
@@ -392,8 +398,16 @@ public final class PromiseTests {
             shoe(x, 0, 101, 7, 91);
             // kept of a person: 50, 3, 45; of a captain: 25, 1, 22; of a professor: 91, 0, 81
             int[] due = {101, 101, 0, 151, 27, 199};
+            x.person(0, 0);
+            shoe(x, 1, 200, 3);
             due(10, "shake of kind " + kind, x.shake(0), due[kind]);
             due(10, "the rest of kind " + kind, x.told(0, 6), 199 - due[kind]);
+            due(10, "the other's shoe", x.told(1, 6), 203);
+            shoe(x, 0, 9999);
+            // 4999 kept of a person, half of it of a captain
+            int[] kept = {4999, 4999, 9999, 2499, 9989, 0};
+            x.shake(0);
+            due(10, "kept of 9999", x.told(0, 3), kept[kind]);
         }
         SandInTheShoe x = new SandInTheShoe();
         x.person(0, 0);
@@ -442,8 +456,16 @@ public final class PromiseTests {
         shoe(x, 3, 0, 0, 4);
         due(12, "odd, the first", x.odd(0, 0), 2);
         due(12, "odd, apart", x.odd(0, 1), 7);
+        due(12, "the first may be the oddest", x.odd(1, 0), 2);
+        shoe(x, 0, 30);
+        due(12, "the first is the oddest", x.odd(1, 0), 0);
+        shoe(x, 0, 3);
         due(12, "odd of another", x.odd(2, 0), 3);
         due(12, "odd of another, apart", x.odd(2, 1), 8);
+        for (int coast = 1; coast < 6; coast++) {
+            x.set(1, 10 * coast, 50);
+        }
+        due(12, "poor, the first of all", x.odd(0, 2), 0);
         due(12, "none such", x.odd(4, 0), BAD);
         due(12, "none such, poor", x.odd(4, 2), BAD);
         due(12, "what 3", x.odd(0, 3), BAD);
@@ -640,6 +662,13 @@ public final class PromiseTests {
         tells(x, 0, 0, 5, 0, 0, 0, -1, 0, 0);
         x.sheet(0, 2, 0);
         tells(x, 0, 5, -1, 63, 1023, 100, 0, 63, 7);
+        x.force(read(x, "takes day = 99;keeps 0;sure 0;"));
+        row(x, 0, 2, 1);
+        due(19, "day 99", x.tells(0, 0, 0, 4), 99);
+        due(19, "one day", x.tells(0, 0, 0, 3), 1);
+        x.force(read(x, "takes day = 100;keeps 0;sure 0;"));
+        due(19, "day 100 is not asked", x.tells(0, 0, 0, 4), -1);
+        due(19, "no day", x.tells(0, 0, 0, 3), 0);
         due(19, "sheet 4", x.tells(4, 0, 0, 0), BAD);
         due(19, "none such", x.tells(0, 2, 0, 0), BAD);
         due(19, "coast 6", x.tells(0, 0, 6, 0), BAD);
@@ -680,14 +709,19 @@ public final class PromiseTests {
 
     private static void promise21() {
         SandInTheShoe x = drawing();
-        // z from seed 0: 12345, then 12345 * 1103515245 + 12345 as an int
-        int first = (12345 >>> 9) % 6;
-        int second = ((12345 * 1103515245 + 12345) >>> 9) % 6;
+        // From seed 0 z is 12345, and 12345 >>> 9 is 24: coast 0, of 1 grain.
         due(21, "no days", x.drawn(0, 0, 0), 0);
-        due(21, "coast 0 first", x.drawn(0, 0, 1), first + 1);
-        due(21, "two days", x.drawn(0, 0, 2), first + second + 2);
+        due(21, "a day", x.drawn(0, 0, 1), 1);
+        due(21, "two days", x.drawn(0, 0, 2), 5);
+        due(21, "five days", x.drawn(0, 0, 5), 14);
+        due(21, "the most days", x.drawn(0, 0, 40), 150);
+        due(21, "by seed 1", x.drawn(1, 0, 40), 149);
+        due(21, "by seed -1", x.drawn(-1, 0, 40), 133);
+        due(21, "by the most", x.drawn(HIGH, 0, 40), 145);
+        due(21, "by the least", x.drawn(LOW, 0, 7), 29);
+        due(21, "by seed 123456789", x.drawn(123456789, 0, 13), 25);
         x.set(3, 5, 100);
-        due(21, "from one's own shoe", x.drawn(0, 0, 1), 100 + first + 1);
+        due(21, "from one's own shoe", x.drawn(0, 0, 1), 101);
         due(21, "it stays as it was", x.told(0, 6), 100);
         shoe(x, 0, 9999, 9999, 9999, 9999, 9999, 9999);
         due(21, "9999 at most", x.drawn(-1, 0, 40), 59994);
@@ -710,6 +744,11 @@ public final class PromiseTests {
             due(22, "chance by seed " + seed, x.chance(seed, 20, 0, 18, 0) * 20, reached * below);
             due(22, "20 over it by seed " + seed, 20 % below, 0);
         }
+        due(22, "10 of 20", x.chance(-3, 20, 0, 18, 0), 1);
+        due(22, "10 of 20, below", x.chance(-3, 20, 0, 18, 1), 2);
+        due(22, "6 of 15", x.chance(100, 15, 0, 18, 0), 2);
+        due(22, "6 of 15, below", x.chance(100, 15, 0, 18, 1), 5);
+        due(22, "6 of 6, over the most", x.chance(HIGH - 1, 6, 0, 18, 1), 1);
         due(22, "always", x.chance(7, 20, 0, 0, 0), 1);
         due(22, "always, below", x.chance(7, 20, 0, 0, 1), 1);
         due(22, "never", x.chance(7, 20, 0, 31, 0), 0);
@@ -744,6 +783,7 @@ public final class PromiseTests {
         x.set(0, 0, 700);
         x.person(3, 3);
         x.stay(1, 0);
+        shoe(x, 1, 1, 2, 3, 4, 5, 6);
         x.feed('a');
         x.sheet(1, 0, 3);
         due(24, "one", x.back(), 1);
