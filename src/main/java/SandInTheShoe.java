@@ -338,7 +338,6 @@ public final class SandInTheShoe {
         if (!now.has(one) || n < 0 || n > MOST_DRAWN) {
             return BAD;
         }
-        tellDailyTakes(one);
         return allAfterDrawn(seed, one, n);
     }
 
@@ -346,7 +345,6 @@ public final class SandInTheShoe {
         if (m < 1 || m > MOST_SEEDS || !now.has(one) || k < 0 || k > MOST_K || !isPart(part)) {
             return NO;
         }
-        tellDailyTakes(one);
         int reached = 0;
         for (int i = 0; i < m; i++) {
             if (allAfterDrawn(seed + i, one, DAYS_BY_CHANCE) >= k) {
@@ -582,7 +580,7 @@ public final class SandInTheShoe {
         return all;
     }
 
-    /** What one takes never hangs on the shoe, so a table of it serves for days in thought. */
+    /** What one takes never hangs on the shoe, so a table of it serves for stays that are told as day is now. */
     private void tellDailyTakes(int one) {
         int kind = now.kinds[one];
         int number = now.numbers[one];
@@ -649,7 +647,7 @@ public final class SandInTheShoe {
         System.arraycopy(now.shoes, one * MARKS, thought, 0, MARKS);
         int rest = way;
         for (int i = 0; i < n; i++) {
-            stayInThought(rest % COASTS);
+            goInThought(rest % COASTS);
             rest = rest / COASTS;
         }
         int apart = 0;
@@ -659,7 +657,7 @@ public final class SandInTheShoe {
         return apart;
     }
 
-    private void stayInThought(int coast) {
+    private void goInThought(int coast) {
         for (int mark = 0; mark < MARKS; mark++) {
             thought[mark] = Math.min(thought[mark] + dailyTakes[coast * MARKS + mark], MOST_IN_SHOE);
         }
@@ -670,9 +668,17 @@ public final class SandInTheShoe {
         int z = seed;
         for (int i = 0; i < n; i++) {
             z = z * 1103515245 + 12345;
-            stayInThought((z >>> 9) % COASTS);
+            // Days that are drawn go by, unlike those of stays and of going.
+            stayInThought(one, now.day + i, (z >>> 9) % COASTS);
         }
         return sum(thought, 0, MARKS);
+    }
+
+    private void stayInThought(int one, int day, int coast) {
+        for (int mark = 0; mark < MARKS; mark++) {
+            int takes = takesOf(now.kinds[one], now.numbers[one], day, coast, mark, now.rule);
+            thought[mark] = Math.min(thought[mark] + takes, MOST_IN_SHOE);
+        }
     }
 
     // ---- reading back what was told

@@ -5,8 +5,12 @@ import java.lang.reflect.Method;
 import java.lang.reflect.Modifier;
 import java.nio.file.Files;
 import java.nio.file.Path;
+import java.util.ArrayDeque;
+import java.util.Deque;
 import java.util.List;
+import java.util.Map;
 import java.util.Set;
+import java.util.TreeMap;
 import java.util.TreeSet;
 import java.util.regex.Matcher;
 import java.util.regex.Pattern;
@@ -30,7 +34,7 @@ public final class LanguageTests {
         "int sheet int int int", "int cell int int int", "int copy int int int int int",
         "int people int int int int", "int taken int int"
     };
-    private static final int MOST_LINES = 60, MOST_PARAMETERS = 7, MOST_CLASSES = 12, MOST_FIELDS = 20;
+    private static final int MOST_LINES = 60, MOST_PARAMETERS = 7, MOST_CLASSES = 12, MOST_FIELDS = 20, MOST_DEEP = 8;
 
     private static int wrong = 0;
 
@@ -59,6 +63,7 @@ public final class LanguageTests {
 
     private static void methods(List<String> lines) {
         Pattern head = Pattern.compile("^( {4}| {8})(?:(?:public|private|static|final) )*[\\w\\[\\]]+ ?(\\w*)\\([^)]*\\) \\{$");
+        Map<String, String> bodies = new TreeMap<>();
         for (int i = 0; i < lines.size(); i++) {
             Matcher m = head.matcher(lines.get(i));
             if (!m.matches()) {
@@ -71,7 +76,30 @@ public final class LanguageTests {
             if (end - i + 1 > MOST_LINES) {
                 refuse(i + 1, m.group(2) + " has " + (end - i + 1) + " lines");
             }
+            bodies.merge(m.group(2), String.join("\n", lines.subList(i + 1, end)), String::concat);
         }
+        for (String name : bodies.keySet()) {
+            goDeeper(bodies, name, new ArrayDeque<>());
+        }
+    }
+
+    /** Methods of one name count as one, and one that is open already goes no deeper: that is recursion. */
+    private static void goDeeper(Map<String, String> bodies, String name, Deque<String> open) {
+        open.addLast(name);
+        if (open.size() > MOST_DEEP) {
+            refuse(0, "too deep: " + open);
+        }
+        Matcher m = Pattern.compile("\\b(?<!\\bnew |Math\\.)(\\w+)\\(").matcher(bodies.get(name));
+        Set<String> calls = new TreeSet<>();
+        while (m.find()) {
+            calls.add(m.group(1));
+        }
+        for (String call : calls) {
+            if (bodies.containsKey(call) && !open.contains(call)) {
+                goDeeper(bodies, call, open);
+            }
+        }
+        open.removeLast();
     }
 
     private static String told(Member m, Class<?> type, Class<?>[] parameters) {

@@ -684,11 +684,14 @@ final class Model {
         Person p = who(one);
         bad(out(n, 41));
         int[] shoe = p.shoe.clone();
+        int today = day;
         int z = seed;
-        for (int i = 0; i < n; i++) {
+        while (day < today + n) {
             z = z * 1103515245 + 12345;
             stayIn(shoe, p, (z >>> 9) % 6);
+            day++;
         }
+        day = today;
         return Arrays.stream(shoe).sum();
     }
 

@@ -732,6 +732,85 @@ public final class PromiseTests {
         due(21, "n -1", x.drawn(0, 0, -1), BAD);
     }
 
+    /** The rule is that one takes so much of each mark. */
+    private static void ruleOfTakes(SandInTheShoe x, String expression) {
+        x.force(read(x, "takes " + expression + ";keeps 0;sure 0;"));
+    }
+
+    private static void promise21ByDays() {
+        SandInTheShoe x = drawing();
+        // By seed 1 the coasts are 1, 4 and 0, of 2, 5 and 1 grains.
+        ruleOfTakes(x, "grains * (day = 1)");
+        due(21, "not yet day 1", x.drawn(1, 0, 1), 0);
+        due(21, "day 1 is the second", x.drawn(1, 0, 2), 5);
+        due(21, "day 1 is over", x.drawn(1, 0, 3), 5);
+        x.set(0, 0, 1);
+        due(21, "day 1 is the first", x.drawn(1, 0, 3), 2);
+        due(21, "day stays", x.told(0, 0), 1);
+        due(21, "out stays", x.told(0, 5), 0);
+        x.set(0, 0, 2);
+        due(21, "day 1 was", x.drawn(1, 0, 40), 0);
+        ruleOfTakes(x, "grains * (day = 2)");
+        x.set(0, 0, 0);
+        due(21, "day 2 is the third", x.drawn(1, 0, 3), 1);
+        ruleOfTakes(x, "day");
+        due(21, "days 0 .. 39", x.drawn(1, 0, 40), 6 * 780);
+        due(21, "days 0 .. 39 again", x.drawn(1, 0, 40), 6 * 780);
+        x.set(3, 0, 9990);
+        due(21, "days 0 .. 9, on top of a shoe", x.drawn(5, 0, 10), 9999 + 5 * 45);
+        x.set(3, 0, 0);
+        ruleOfTakes(x, "day - 998");
+        x.set(0, 0, 999);
+        due(21, "days 999 .. 1001", x.drawn(1, 0, 3), 6 * (1 + 2 + 3));
+        x.set(0, 0, 0);
+        x.person(1, 0);
+        x.person(2, 0);
+        x.person(3, 4);
+        x.person(4, 0);
+        x.person(5, 0);
+        ruleOfTakes(x, "day");
+        due(21, "a sailor", x.drawn(1, 1, 4), 6 * 12);
+        due(21, "a clerk, cut each day", x.drawn(1, 2, 4), 6 * 2);
+        due(21, "a captain", x.drawn(1, 3, 4), 6 * 12 + 4 * 4);
+        due(21, "a professor", x.drawn(1, 4, 4), 5 * 2);
+        x.stay(4, 0);
+        due(21, "a day on", x.drawn(1, 4, 4), 5 * 4);
+    }
+
+    private static void promise22ByDays() {
+        SandInTheShoe x = drawing();
+        ruleOfTakes(x, "day");
+        // Of each seed the days are 0 .. 4, 60 grains.
+        due(22, "60 by each seed", x.chance(9, 20, 0, 60, 0), 1);
+        due(22, "61 by none", x.chance(9, 20, 0, 61, 0), 0);
+        x.set(0, 0, 7);
+        due(22, "7 .. 11 by each", x.chance(9, 20, 0, 270, 0), 1);
+        due(22, "more by none", x.chance(9, 20, 0, 271, 0), 0);
+        due(22, "day stays", x.told(0, 0), 7);
+        ruleOfTakes(x, "grains * (day = 8)");
+        // The second day by seeds 0 and 1 is on coasts 3 and 4.
+        due(22, "the second day alone", x.chance(0, 2, 0, 5, 0), 1);
+        due(22, "the second day alone, below", x.chance(0, 2, 0, 5, 1), 2);
+        due(22, "4 by both", x.chance(0, 2, 0, 4, 1), 1);
+    }
+
+    /** Where the document says that takes is told as the day is now, days don't go by in thought. */
+    private static void promises14to18ByDays() {
+        SandInTheShoe x = new SandInTheShoe();
+        x.person(0, 0);
+        x.person(0, 0);
+        ruleOfTakes(x, "day * (coast + 1)");
+        x.set(0, 0, 2);
+        due(14, "all days as the day now", x.stays(0, 300001, 0), 3 * 2 + 12);
+        due(15, "all days as the day now", x.pack(0, 0, 110000), 6 * (2 + 4));
+        due(16, "all days as the day now", x.fit(0, 0, 1), 1000);
+        due(16, "by 3 days, by 2, by 1", x.fit(0, 0, 0), 3);
+        due(17, "one of three", x.share(0, 0, 2, 1), 3);
+        shoe(x, 1, 6, 6, 6, 6, 6, 6);
+        due(18, "three days as the day now", x.go(0, 1, 3, 0), 111);
+        due(18, "three days as the day now, apart", x.go(0, 1, 3, 1), 0);
+    }
+
     private static void promise22() {
         SandInTheShoe x = drawing();
         int[] seeds = {0, -3, HIGH - 1, LOW};
@@ -957,6 +1036,7 @@ public final class PromiseTests {
         promise12();
         promise13();
         promise14();
+        promises14to18ByDays();
         promise15();
         promise16();
         promise17();
@@ -964,7 +1044,9 @@ public final class PromiseTests {
         promise19();
         promise20();
         promise21();
+        promise21ByDays();
         promise22();
+        promise22ByDays();
         promise23and24();
         promise25();
         promise26();
