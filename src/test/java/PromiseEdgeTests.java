@@ -115,6 +115,10 @@ public final class PromiseEdgeTests {
         x.set(what, of, most + 1);
         e.due("told(" + of + ", " + what + ")", x.told(of, what), most);
         e.due("set() of the least", x.set(what, of, least), most);
+        e.changesNothing(Edges::grown, "set(" + what + ", " + of + ") there and back", y -> {
+            int was = y.set(what, of, most - 1);
+            return y.set(what, of, was);
+        }, most - 1);
     }
 
     private void person() {

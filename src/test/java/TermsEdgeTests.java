@@ -315,6 +315,14 @@ public final class TermsEdgeTests {
             e.due(one + " between two", Edges.read("takes 1" + sign + "1" + REST),
                 digit || joins ? 1 : blank || sign == ';' ? -108 : -107);
             e.due(one + " at the end", Edges.read("takes 1;keeps 1;sure 1;" + sign), blank ? 1 : -123);
+            // A letter makes another WORD of it.
+            boolean small = letter >= 'a' && letter <= 'z';
+            e.due(one + " behind a WORD", Edges.read("takes mark" + sign + REST),
+                blank ? 1 : joins || sign == ';' ? -111 : small ? -106 : -110);
+            e.due(one + " ahead of a WORD", Edges.read("takes " + sign + "mark" + REST),
+                blank || sign == '-' ? 1 : sign == '(' ? -111 : digit ? -107 : -106);
+            e.due(one + " in a WORD", Edges.read("takes ma" + sign + "rk" + REST), -106);
+            e.due(one + " in a KEY", Edges.read("ta" + sign + "kes 1" + REST), -100);
         }
     }
 
@@ -364,6 +372,23 @@ public final class TermsEdgeTests {
             fault("takes " + name.substring(1) + REST, 6);
             fault("takes " + name.substring(0, name.length() - 1) + REST, 6);
             fault(name + " 1" + REST, 0);
+        }
+        otherWords();
+    }
+
+    /** Each WORD with one letter changed is another one, and none of them. */
+    private void otherWords() {
+        String[] words = {"grains", "mark", "number", "day", "coast", "shoe", "not", "or", "and", "takes", "keeps", "sure"};
+        String[] ahead = {"takes ", "takes ", "takes ", "takes ", "takes ", "takes ", "takes ", "takes 1 ", "takes 1 ", "", "takes 1;", "takes 1;keeps 1;"};
+        for (int i = 0; i < words.length; i++) {
+            for (int at = 0; at < words[i].length(); at++) {
+                for (char letter = 'a'; letter <= 'z'; letter++) {
+                    if (letter != words[i].charAt(at)) {
+                        String other = words[i].substring(0, at) + letter + words[i].substring(at + 1);
+                        fault(ahead[i] + other + " 1" + REST, ahead[i].length());
+                    }
+                }
+            }
         }
     }
 
@@ -503,12 +528,14 @@ public final class TermsEdgeTests {
         String[] expressions = {
             "0 or 0", "0 or 5", "-1 or 0", "5 or 7", "0 and 0", "5 and 0", "0 and 5", "5 and 7", "-1 and -1",
             "not 0", "not 1", "not 5", "not -1", "not not 5", "1<1", "1<2", "2<1", "-1<0", "0<-1", "1=1", "1=2", "-1=-1",
-            "(5 or 0)+(3 and 4)+(not 0)+(1<2)+(7=7)", "not 0 and 0", "not 0=0", "not (0=0)", "1 or 0 and 0", "0 and 0 or 1"
+            "(5 or 0)+(3 and 4)+(not 0)+(1<2)+(7=7)",
+            "9+(0 or 0)", "9+(0 and 5)", "9+(not 5)", "9+(2<1)", "9+(2=1)", "not 0 and 0", "not 0=0", "not (0=0)", "1 or 0 and 0", "0 and 0 or 1"
         };
         int[] due = {
             0, 1, 1, 1, 0, 0, 0, 1, 1,
             1, 0, 0, 0, 1, 0, 1, 0, 1, 0, 1, 0, 1,
-            5, 0, 0, 0, 1, 1
+            5,
+            9, 9, 9, 9, 9, 0, 0, 0, 1, 1
         };
         for (int i = 0; i < expressions.length; i++) {
             e.due(expressions[i], takes(expressions[i]), due[i]);
@@ -527,6 +554,13 @@ public final class TermsEdgeTests {
         e.due("force(6)", x.force(6), BAD);
         e.due("force(5)", x.force(5), 0);
         e.due("by TEXT 5", x.asks(0, 0, 0), 5);
+        SandInTheShoe shorter = bare();
+        Edges.read(shorter, "takes 5;keeps 6;sure not not not 7;");
+        Edges.read(shorter, "takes not not not 8 + ;");
+        e.due("a shorter TEXT behind longer ones", Edges.read(shorter, "takes 1;keeps 2;sure 3;"), 2);
+        e.due("force(2)", shorter.force(2), 0);
+        e.due("takes 1", shorter.asks(0, 0, 0), 1);
+        e.due("sure 3, and nothing left of the longer ones", shorter.asks(0, 0, 7), 3);
         e.sentence("Terms 1", "TEXT 0, at first THE RULE, is: takes grains ; keeps 50 ; sure grains ;");
         SandInTheShoe y = bare();
         e.due("THE RULE at first", y.count(5), 0);
@@ -923,6 +957,15 @@ public final class TermsEdgeTests {
         Edges.row(x, 0, 1, 100);
         e.due("DAYS that bring 100", x.tells(0, 0, 0, 3), 0);
         e.due("the least", x.tells(0, 0, 0, 4), NONE);
+        Edges.rule(x, "7*(day=100)", "0", "0");
+        Edges.row(x, 0, 1, 7);
+        x.set(0, 0, 100);
+        e.due("so it is on DAY 100", x.tells(0, 0, 0, 0), NONE);
+        e.due("DAY 100 is not asked", x.tells(0, 0, 0, 3), 0);
+        e.due("DAY 100 is not the least", x.tells(0, 0, 0, 4), NONE);
+        Edges.row(x, 0, 1, 0);
+        e.due("the others are", x.tells(0, 0, 0, 3), 100);
+        Edges.rule(x, "day", "0", "0");
         x.set(0, 0, 999);
         e.due("DAYS, none told", bareTelling(x, 3), 100);
         e.due("the least, none told", bareTelling(x, 4), 0);
@@ -974,6 +1017,16 @@ public final class TermsEdgeTests {
         Edges.shoe(y, 0, 9999, 9998, 9900, 9899, 9801, 0);
         e.due("one day", y.drawn(3, 0, 1), 9999 + 9999 + 9999 + 9998 + 9900 + 99);
         e.due("40 days", y.drawn(3, 0, 40), 5 * 9999 + 40 * 99);
+        // The days that are drawn follow one another, the first of them DAY as it is now.
+        SandInTheShoe z = Edges.rule(bare(), "day-990", "0", "0");
+        z.set(0, 0, 990);
+        for (int n = 0; n <= 10; n++) {
+            e.due(n + " days from DAY 990 on", z.drawn(3, 0, n), 6 * (n * (n - 1) / 2));
+        }
+        e.due("DAY stays", z.count(1), 990);
+        z.set(0, 0, 999);
+        e.due("a day that is DAY 999", z.drawn(3, 0, 1), 54);
+        e.due("five in each of 20 seeds", z.chance(3, 20, 0, 54, 0), 1);
     }
 
     private void chance() {
