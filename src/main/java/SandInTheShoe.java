@@ -776,15 +776,11 @@ public final class SandInTheShoe {
             int one = people;
             kinds[one] = kind;
             numbers[one] = number;
-            // One who went by an image may have left sand here.
-            out[one] = 0;
-            for (int mark = 0; mark < MARKS; mark++) {
-                shoes[one * MARKS + mark] = 0;
-            }
             people++;
             return one;
         }
 
+        /** By whole rows, so that behind the people nothing is left of those who went: who comes finds an empty shoe. */
         void becomes(World other) {
             day = other.day;
             rule = other.rule;

@@ -2,7 +2,9 @@ import java.io.IOException;
 import java.nio.file.Files;
 import java.nio.file.Path;
 import java.util.ArrayList;
+import java.util.HashSet;
 import java.util.List;
+import java.util.Set;
 
 /** What the tests of the document's edges share: the sentence that is tested, answers that are due, twins. */
 final class Edges {
@@ -28,7 +30,7 @@ final class Edges {
     private final String document;
     private String place = "";
     private String sentence = "";
-    private int sentences = 0;
+    private final Set<String> sentences = new HashSet<>();
     private int answers = 0;
     private int wrong = 0;
 
@@ -41,7 +43,7 @@ final class Edges {
     void sentence(String newPlace, String words) {
         place = newPlace;
         sentence = words;
-        sentences++;
+        sentences.add(words);
         if (document != null && !document.contains(words)) {
             wrong("the document doesn't say that");
         }
@@ -97,7 +99,7 @@ final class Edges {
     }
 
     void ends(String name) {
-        System.out.println(name + ": " + sentences + " sentences, " + answers + " answers, " + wrong + " not as due");
+        System.out.println(name + ": " + sentences.size() + " sentences, " + answers + " answers, " + wrong + " not as due");
         if (wrong != 0) {
             System.exit(1);
         }

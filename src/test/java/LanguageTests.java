@@ -20,8 +20,10 @@ public final class LanguageTests {
     private static final String[] BANNED = {
         "\\b(throw|throws|try|catch|synchronized|assert|import|package|native|volatile|transient|Object)\\b",
         "->", "::", "\\bstatic\\s*\\{", "@", "Exact\\s*\\(", "\\bSystem\\.(?!arraycopy\\b)", "\\bMath\\.(?!abs|min|max)",
-        "\\b(float|double|Long|Integer|Thread|Random)\\b", "\"\\s*\\+|\\+\\s*\""
+        "\\b(float|double|Long|Integer|Thread|Random)\\b", "\"\\s*\\+|\\+\\s*\"", "\\b(equals|hashCode|toString)\\b"
     };
+    /** All rows are made with the object, so that no run of calls fills the room. */
+    private static final Pattern MAKES = Pattern.compile("\\bnew\\b|\\bclone\\b|\\bArrays\\b|\\bsubstring\\b|\\btoCharArray\\b");
     private static final String[] FACE = {
         "int NONE", "int BAD", "int STATE", "int FULL", "long NO",
         "int set int int int", "int person int int", "int told int int", "int asks int int int",
@@ -34,6 +36,7 @@ public final class LanguageTests {
         "int sheet int int int", "int cell int int int", "int copy int int int int int",
         "int people int int int int", "int taken int int"
     };
+    private static final Set<Class<?>> STATIC_TYPES = Set.of(int.class, long.class, boolean.class, char.class, String.class);
     private static final int MOST_LINES = 60, MOST_PARAMETERS = 7, MOST_CLASSES = 12, MOST_FIELDS = 20, MOST_DEEP = 8;
 
     private static int wrong = 0;
@@ -76,7 +79,12 @@ public final class LanguageTests {
             if (end - i + 1 > MOST_LINES) {
                 refuse(i + 1, m.group(2) + " has " + (end - i + 1) + " lines");
             }
-            bodies.merge(m.group(2), String.join("\n", lines.subList(i + 1, end)), String::concat);
+            String body = String.join("\n", lines.subList(i + 1, end));
+            boolean constructor = m.group(2).isEmpty();
+            if (!constructor && MAKES.matcher(body).find()) {
+                refuse(i + 1, m.group(2) + " makes something");
+            }
+            bodies.merge(m.group(2), body, String::concat);
         }
         for (String name : bodies.keySet()) {
             goDeeper(bodies, name, new ArrayDeque<>());
@@ -146,6 +154,8 @@ public final class LanguageTests {
                 fields++;
             } else if (!Modifier.isFinal(f.getModifiers())) {
                 refuse(0, f + " is static and not final");
+            } else if (!STATIC_TYPES.contains(f.getType())) {
+                refuse(0, f + " is static and of a type that may change");
             }
         }
         if (fields > MOST_FIELDS) {

@@ -325,17 +325,23 @@ public final class ModelTests {
         due(run, call, NAMES[k], k, got, want);
     }
 
+    private void run(int run, int calls) {
+        z = run * 7919L + 1;
+        SandInTheShoe x = new SandInTheShoe();
+        Model y = new Model();
+        for (int call = 0; call < calls; call++) {
+            step(run, call, x, y);
+        }
+    }
+
     public static void main(String[] args) {
         int runs = args.length > 0 ? Integer.parseInt(args[0]) : 400;
         ModelTests t = new ModelTests();
         for (int run = 0; run < runs; run++) {
-            t.z = run * 7919L + 1;
-            SandInTheShoe x = new SandInTheShoe();
-            Model y = new Model();
-            for (int call = 0; call < CALLS; call++) {
-                t.step(run, call, x, y);
-            }
+            t.run(run, CALLS);
         }
+        // No answer is promised behind 512 calls, but that none throws.
+        t.run(runs, 20 * CALLS);
         for (int k = 0; k < NAMES.length; k++) {
             System.out.println(NAMES[k] + ": " + t.answers[k][0] + " answers, " + t.answers[k][1] + " below 0");
         }

@@ -116,11 +116,12 @@ public final class TermsEdgeTests {
         }
         e.due("GRAINS of all SHOES", x.count(2), 299970);
         e.sentence("Terms 1", "are OUT so many DAYS (0 .. 9999; 0)");
-        // 9999 DAYS are beyond 512 calls.
+        // 9999 DAYS are beyond 512 calls, where nothing is promised; the class keeps to the bound there, too.
         SandInTheShoe y = bare();
-        for (int days = 0; days < 250; days++) {
-            e.due("OUT", y.told(0, 5), days);
+        for (int days = 0; days < 10002; days++) {
+            e.due("OUT", y.told(0, 5), Math.min(days, 9999));
             y.stay(0, days % 6);
+            y.set(0, 0, days % 999);
         }
     }
 
